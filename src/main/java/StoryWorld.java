@@ -28,6 +28,7 @@ public final class StoryWorld {
     private static final int TRAIT_BOX = 2;
     private static final int TRAIT_OPEN = 4;
     private static final int TRAIT_LAMP = 8;
+    private static final int OPEN_BOX = TRAIT_BOX + TRAIT_OPEN;
     private static final int ALL_TRAITS = 15;
     private static final int TRAIT_KINDS = 4;
 
@@ -50,12 +51,13 @@ public final class StoryWorld {
     private static final int MEANING_DIRECTION = 10;
     private static final int MEANING_THING = 20;
     private static final int MEANING_PASSED_OVER = 30;
-    private static final int NO_MEANING = -1;
 
     private static final int MOST_WORDS = 24;
     private static final int LETTER_BASE = 27;
     private static final int MOST_LETTERS = 531440;
     private static final int WORD_LENGTH = 4;
+    private static final int LAST_WEIGHT = LETTER_BASE * LETTER_BASE * LETTER_BASE;
+    private static final int WORD_NOT_KNOWN = -1;
 
     private static final int MOST_TYPED = 30;
     /** A word and a blank take two of the typed characters. */
@@ -205,7 +207,7 @@ public final class StoryWorld {
     public int enter() {
         int count = readSentence();
         typedCount = 0;
-        if (count < 0) {
+        if (count == WORD_NOT_KNOWN) {
             return UNKNOWN;
         }
         if (count == 0) {
@@ -303,10 +305,6 @@ public final class StoryWorld {
     }
 
     private static boolean isMeaning(int meaning) {
-        // The range stands first so that the differences below cannot wrap around.
-        if (meaning < 0 || meaning > MEANING_PASSED_OVER) {
-            return false;
-        }
         return isVerb(meaning) || meansDirection(meaning) || meansThing(meaning)
                 || meaning == MEANING_PASSED_OVER;
     }
@@ -394,36 +392,30 @@ public final class StoryWorld {
         return at;
     }
 
-    /** Fills the sentence; answers its length, or NO_MEANING if a word has none. */
+    /** Fills the sentence; answers its length, or WORD_NOT_KNOWN if a word has no meaning. */
     private int readSentence() {
         int count = 0;
         int letters = 0;
-        int length = 0;
         int weight = 1;
         for (int i = 0; i <= typedCount; i++) {
             // A blank behind the last character ends the last word like any other.
             int c = i < typedCount ? typed[i] : BLANK;
             if (c != BLANK) {
-                if (length < WORD_LENGTH) {
-                    letters += (c - LETTER_A + 1) * weight;
-                    weight *= LETTER_BASE;
-                    length++;
-                }
-                continue;
-            }
-            if (length > 0) {
+                letters += (c - LETTER_A + 1) * weight;
+                // With weight 0 what stands behind the fourth letter is cut off.
+                weight = weight < LAST_WEIGHT ? weight * LETTER_BASE : 0;
+            } else if (letters > 0) {
                 int at = findWord(letters);
                 if (at == wordCount) {
-                    return NO_MEANING;
+                    return WORD_NOT_KNOWN;
                 }
                 if (wordMeanings[at] != MEANING_PASSED_OVER && count < MOST_SENTENCE_WORDS) {
                     sentence[count] = wordMeanings[at];
                     count++;
                 }
+                letters = 0;
+                weight = 1;
             }
-            letters = 0;
-            length = 0;
-            weight = 1;
         }
         return count;
     }
@@ -465,7 +457,7 @@ public final class StoryWorld {
         // No thing is inside itself, so the way out passes each thing once at most.
         for (int i = 0; i < THINGS && at >= PLACE_IN_THING; i++) {
             int holder = at - PLACE_IN_THING;
-            if (!hasTrait(holder, TRAIT_BOX) || !hasTrait(holder, TRAIT_OPEN)) {
+            if ((thingTraits[holder] & OPEN_BOX) != OPEN_BOX) {
                 return false;
             }
             at = thingPlaces[holder];
@@ -473,20 +465,19 @@ public final class StoryWorld {
         return at == playerRoom || at == PLACE_HELD;
     }
 
-    private boolean isLight() {
+    private boolean canSee(int t) {
+        if (!isNear(t)) {
+            return false;
+        }
         if (!darkRooms[playerRoom]) {
             return true;
         }
-        for (int t = 0; t < THINGS; t++) {
-            if (hasTrait(t, TRAIT_LAMP) && isNear(t)) {
+        for (int lamp = 0; lamp < THINGS; lamp++) {
+            if (hasTrait(lamp, TRAIT_LAMP) && isNear(lamp)) {
                 return true;
             }
         }
         return false;
-    }
-
-    private boolean canSee(int t) {
-        return isNear(t) && isLight();
     }
 
     private int perform(int verb, int x, int y) {

@@ -31,6 +31,12 @@ public final class ModelTest {
         if (seed % 4 != 0) {
             prepare();
         }
+        if (seed % 4 == 2) {
+            addSayingRules();
+        }
+        if (seed % 4 == 3) {
+            fillHandsAndBoxes();
+        }
         while (calls < CALLS) {
             step();
         }
@@ -46,6 +52,27 @@ public final class ModelTest {
         }
         for (int t = 0; t < 8; t++) {
             thing(t, random.nextInt(16), random.nextInt(16));
+        }
+    }
+
+    /** Rules up to the limit or near it, and numbers said past those that are kept. */
+    private void addSayingRules() {
+        for (int i = 10 + random.nextInt(6); i > 0; i--) {
+            rule(random.nextInt(6), -1, 0, Story.say(random.nextInt(256)));
+        }
+    }
+
+    /** Two open boxes at hand, and all else in them or held, so that things are put where it is full. */
+    private void fillHandsAndBoxes() {
+        for (int t = 0; t < 8; t++) {
+            thing(t, Story.OPEN_BOX, 0);
+        }
+        for (int t = 0; t < 6; t++) {
+            int[] places = {Story.HELD, Story.in(6), Story.in(7)};
+            thing(t, 0, places[random.nextInt(3)]);
+        }
+        for (int i = 0; i < 60; i++) {
+            command(1 + random.nextInt(3), random.nextInt(6), 6 + random.nextInt(2));
         }
     }
 
@@ -70,7 +97,7 @@ public final class ModelTest {
             case 1 -> link(around(0, 5), around(0, 3), around(-1, 5));
             case 2, 3 -> thing(around(0, 7), around(0, 15), around(0, 15));
             case 4 -> word(someLetters(), around(0, 30));
-            case 5 -> rule();
+            case 5 -> anyRule();
             case 6 -> unrule();
             case 7, 8, 9 -> typeLine();
             case 10 -> type(around(90, 125));
@@ -84,11 +111,15 @@ public final class ModelTest {
                 : Story.letters(WORDS[random.nextInt(WORDS.length)]);
     }
 
-    private void rule() {
+    private void anyRule() {
         int verb = around(0, 5);
         int subject = around(-1, 7);
         int condition = random.nextInt(3) == 0 ? 0 : around(0, 1023);
         int effect = random.nextInt(3) == 0 ? around(0, 2047) : around(0, 1023);
+        rule(verb, subject, condition, effect);
+    }
+
+    private void rule(int verb, int subject, int condition, int effect) {
         is("rule", model.rule(verb, subject, condition, effect), world.rule(verb, subject, condition, effect));
     }
 

@@ -6,6 +6,7 @@ public final class Promise15VisibleTest {
         inThings(due);
         longChain(due);
         lamps(due);
+        everyLamp(due);
         outside(due);
         due.end();
     }
@@ -93,6 +94,18 @@ public final class Promise15VisibleTest {
         world.thing(1, 0, 0);
         world.dark(1, true);
         due.yes("another room is dark", world.visible(0));
+    }
+
+    private static void everyLamp(Due due) {
+        for (int lamp = 0; lamp < 8; lamp++) {
+            StoryWorld world = new StoryWorld();
+            world.dark(0, true);
+            int other = (lamp + 3) % 8;
+            world.thing(other, 0, 0);
+            due.no("visible(" + other + ")", world.visible(other));
+            world.thing(lamp, Story.LAMP, Story.HELD);
+            due.yes("visible(" + other + ") with lamp " + lamp, world.visible(other));
+        }
     }
 
     private static void outside(Due due) {
