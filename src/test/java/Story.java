@@ -68,4 +68,29 @@ final class Story {
         type(world, text);
         return world.enter();
     }
+
+    /** Gives a word a meaning. */
+    static int word(StoryWorld world, String word, int meaning) {
+        return world.word(letters(word), meaning);
+    }
+
+    /** Adds a rule for a while that brings the player to a room, whatever the exits are. */
+    static void bring(StoryWorld world, int room) {
+        apply(world, carry(room));
+    }
+
+    /** Adds a rule for a while that lets an effect take place; there is no other rule for CLOSE 7 then. */
+    static void apply(StoryWorld world, int effect) {
+        world.rule(CLOSE, 7, ALWAYS, effect | STOPS);
+        world.command(CLOSE, 7, 0);
+        world.unrule();
+    }
+
+    /** Whether a condition holds, asked by a rule that is there for a while. */
+    static boolean holds(StoryWorld world, int condition) {
+        world.rule(GO, 3, condition, STOPS + carry(world.player()));
+        boolean stopped = world.command(GO, 3, 0) == StoryWorld.STOPPED;
+        world.unrule();
+        return stopped;
+    }
 }
